@@ -269,7 +269,7 @@ public final class CitationFormatter {
         if (!works.has(work)) {
             return INVALID_ARGUMENT;
         }
-        updateLabels();
+        labels.update();
         return labels.shown[work];
     }
 
@@ -277,7 +277,7 @@ public final class CitationFormatter {
         if (!works.has(work)) {
             return INVALID_ARGUMENT;
         }
-        updateLabels();
+        labels.update();
         return labels.withInitials[work] ? 1 : 0;
     }
 
@@ -285,7 +285,7 @@ public final class CitationFormatter {
         if (!works.has(work)) {
             return INVALID_ARGUMENT;
         }
-        updateLabels();
+        labels.update();
         return labels.suffixes[work] == NO_SUFFIX ? NONE : labels.suffixes[work];
     }
 
@@ -293,7 +293,7 @@ public final class CitationFormatter {
         if (!works.has(work)) {
             return INVALID_ARGUMENT;
         }
-        updateLabels();
+        labels.update();
         return labels.worksLabelledLike(work) & ~(1 << work);
     }
 
@@ -301,7 +301,7 @@ public final class CitationFormatter {
         if (!citations.has(citation)) {
             return INVALID_ARGUMENT;
         }
-        updateLabels();
+        labels.update();
         renderer.renderCitation(citation);
         return renderer.length;
     }
@@ -310,7 +310,7 @@ public final class CitationFormatter {
         if (!citations.has(citation) || index < 0) {
             return INVALID_ARGUMENT;
         }
-        updateLabels();
+        labels.update();
         renderer.renderCitation(citation);
         return renderer.codeAt(index);
     }
@@ -319,15 +319,9 @@ public final class CitationFormatter {
         if (!works.has(position) || index < 0) {
             return INVALID_ARGUMENT;
         }
-        updateLabels();
+        labels.update();
         renderer.renderEntry(arrangement.listing[position]);
         return renderer.codeAt(index);
-    }
-
-    /** Suffixes follow the bibliography order, so the arrangement comes first. */
-    private void updateLabels() {
-        arrangement.update();
-        labels.update();
     }
 
     private static boolean inRange(int value, int least, int greatest) {
@@ -927,7 +921,9 @@ public final class CitationFormatter {
             this.arrangement = arrangement;
         }
 
+        /** Brings the arrangement up to date too, since suffixes follow the bibliography order. */
         void update() {
+            arrangement.update();
             for (int work = 0; work < works.count; work++) {
                 show(work, initiallyShown(work), false);
                 suffixes[work] = NO_SUFFIX;
@@ -951,16 +947,12 @@ public final class CitationFormatter {
         int worksLabelledLike(int work) {
             int found = 0;
             for (int other = 0; other < works.count; other++) {
-                if (sameLabel(work, other)) {
+                if (sameNames(work, other) && works.years[work] == works.years[other]
+                        && suffixes[work] == suffixes[other]) {
                     found |= 1 << other;
                 }
             }
             return found;
-        }
-
-        private boolean sameLabel(int left, int right) {
-            return sameNames(left, right) && works.years[left] == works.years[right]
-                    && suffixes[left] == suffixes[right];
         }
 
         private int initiallyShown(int work) {

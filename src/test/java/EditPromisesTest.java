@@ -48,6 +48,10 @@ public final class EditPromisesTest {
         x.removeWork(0);
         due("no work is left", x.removeWork(0), 0);
         due("none to remove", x.removeWork(0), -1);
+        CitationFormatter eight = Checks.loaded("workAa00a;".repeat(7) + "workAaBb01b;");
+        eight.removeWork(0);
+        due("the last of eight moved down", eight.authorCount(6), 2);
+        due("seven are left", eight.authorCount(7), -1);
     }
 
     private static void promise6EmptiesCitations() {
@@ -69,6 +73,19 @@ public final class EditPromisesTest {
         dueText("citation 2", Checks.rendered(x, 2), "[1]");
         due("the last work can be added to", x.addToCitation(0), 2);
         due("removing all that is cited last", x.removeWork(2), 3);
+        CitationFormatter ten = Checks.loaded(FOUR_WORKS);
+        for (int citation = 0; citation < 10; citation++) {
+            ten.beginCitation(citation == 9 ? 2 : 3);
+        }
+        due("one of ten is left", ten.removeWork(3), 1);
+        dueText("it moved down", Checks.rendered(ten, 0), "(B+02)");
+        due("all of ten are back", ten.undo(), 7);
+        due("ten citations", ten.citationCount(), 10);
+        ten.setNumbering(1);
+        dueText("the numbers of ten citations", Checks.numbers(ten), "4321");
+        due("the first of ten goes", ten.removeCitation(0), 1);
+        due("the ninth is the last now", ten.citationCount(), 9);
+        dueText("it is the tenth one", Checks.rendered(ten, 8), "(B+02)");
     }
 
     private static void promise7SetYear() {
@@ -255,6 +272,10 @@ public final class EditPromisesTest {
         due("removeCitation(0)", x.removeCitation(0), 1);
         dueText("it moved down", Checks.rendered(x, 0), "(A01;D04;B+02)");
         due("the works stay", x.workCount(), 4);
+        due("the last one goes", x.removeCitation(0), 3);
+        due("a new one in its place", x.beginCitation(1), 0);
+        due("it cites one work", x.citationSize(0), 1);
+        dueText("its own", Checks.rendered(x, 0), "(C&X03)");
     }
 
     private static void promise18UndoOfEachEdit() {
@@ -289,6 +310,12 @@ public final class EditPromisesTest {
         due("the last one", x.undo(), 0);
         due("nothing is left", x.undo(), -2);
         due("nothing is left, again", x.undo(), -2);
+        for (int slot = 0; slot < 3; slot++) {
+            int initial = x.setSortSlot(slot, 3, 1);
+            x.undo();
+            due("slot " + slot + " is back", x.setSortSlot(slot, 3, 1), initial);
+            x.undo();
+        }
     }
 
     private static void promise18UndoOfWorksAndCitations() {

@@ -5,6 +5,7 @@ public final class InspectionPromisesTest {
     public static void main(String[] args) {
         promises19To22Counts();
         promise23AuthorKey();
+        promise23AuthorKeyAfterLongerLists();
         promise23YearAndTitleKeys();
         promise23NumericListing();
         promise24NumberOf();
@@ -16,6 +17,8 @@ public final class InspectionPromisesTest {
         promise26InitialsOfShownAuthorsAlone();
         promise27Suffixes();
         promise28AmbiguousWith();
+        promise28TellsAllLettersApart();
+        eachCallSeesTheLatestEdit();
         CHECKS.close("InspectionPromisesTest");
     }
 
@@ -55,6 +58,16 @@ public final class InspectionPromisesTest {
         due("bibliographyAt(-1)", x.bibliographyAt(-1), -1);
         due("bibliographyAt(7)", x.bibliographyAt(7), -1);
         due("bibliographyAt(greatest)", x.bibliographyAt(Integer.MAX_VALUE), -1);
+    }
+
+    private static void promise23AuthorKeyAfterLongerLists() {
+        CitationFormatter x = Checks.loaded("workZzZzZzZz00a;workAaAaAaAa00a;workZzZzZzZz00a;");
+        Checks.type(x, "workBaBa00a;workBaBaBa00a;workBa00a;");
+        x.loadWorks();
+        dueText("the shorter list first", Checks.listing(x), "201");
+        Checks.type(x, "workBaCa00a;workBa00a;workBaBaBa00a;");
+        x.loadWorks();
+        dueText("the shorter list first, again", Checks.listing(x), "120");
     }
 
     private static void promise23YearAndTitleKeys() {
@@ -224,5 +237,49 @@ public final class InspectionPromisesTest {
         due("hidden names", names.ambiguousWith(0), 2);
         names.setDisambiguation(1);
         due("added names", names.ambiguousWith(0), 0);
+    }
+
+    private static void promise28TellsAllLettersApart() {
+        CitationFormatter x = Checks.loaded("workKaAa07a;workLaAa07a;workKaZa07a;workZaKa07a;"
+                + "workAaKa07a;workZaZa07a;workAaAa07a;workKaKa07a;");
+        x.setDisambiguation(0);
+        for (int work = 0; work < 8; work++) {
+            due("families of work " + work, x.ambiguousWith(work), 0);
+        }
+        x = Checks.loaded("workKaKa07a;workKaKz07a;workKzKa07a;workKzKz07a;workKaKb07a;"
+                + "workKbKa07a;workKaKg07a;workKgKa07a;");
+        x.setDisambiguation(0);
+        due("initials that are not shown", x.ambiguousWith(7), 127);
+        x.setDisambiguation(2);
+        for (int work = 0; work < 8; work++) {
+            due("initials of work " + work, x.ambiguousWith(work), 0);
+        }
+    }
+
+    /** Each inspection comes at once behind an edit that changes its answer. */
+    private static void eachCallSeesTheLatestEdit() {
+        CitationFormatter x = Checks.loaded("workKaLa07a;workKbLa07a;workKbLa08a;");
+        x.beginCitation(0);
+        due("showsInitials", x.showsInitials(0), 1);
+        x.setDisambiguation(4);
+        due("showsInitials without step 2", x.showsInitials(0), 0);
+        x.setEtAl(2, 1);
+        due("shownAuthors", x.shownAuthors(0), 1);
+        x.setSortSlot(0, 1, 1);
+        due("suffixOf", x.suffixOf(0), 'b');
+        x.setDisambiguation(0);
+        due("ambiguousWith", x.ambiguousWith(0), 2);
+        x.setYear(1, 9);
+        due("bibliographyAt", x.bibliographyAt(1), 1);
+        x.setYear(1, 7);
+        due("numberOf", x.numberOf(1), 1);
+        x.setYear(0, 99);
+        due("renderedCharacter", x.renderedCharacter(0, 3), '9');
+        x.setEtAl(0, 1);
+        due("renderedLength", x.renderedLength(0), 7);
+        x.setSortSlot(0, 2, 0);
+        due("entryCharacter", x.entryCharacter(0, 7), '7');
+        x.undo();
+        due("entryCharacter after undo", x.entryCharacter(2, 7), '9');
     }
 }

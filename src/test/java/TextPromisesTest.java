@@ -13,6 +13,7 @@ public final class TextPromisesTest {
         promise4Lexemes();
         promise4ErrorOffsets();
         promise4Limits();
+        promise4LooksAtTheTextAlone();
         promise4ErrorChangesNothing();
         promise5ExpandNumbers();
         promise5ErrorOffsets();
@@ -160,6 +161,22 @@ public final class TextPromisesTest {
         load("workAa00a;".repeat(8) + " work", -10 - 81);
         load("workAa00a;".repeat(8) + "x", -10 - 80);
         load("workAaBbCcDd00a;".repeat(8), 8);
+        load("workAa00a;" + " ".repeat(140), 1);
+        load("workAa00a;" + " ".repeat(139) + "K", -10 - 149);
+        load("workAa00a;" + " ".repeat(136) + "work", -10 - 150);
+        load("a".repeat(150), -10);
+        load("workAa" + "0".repeat(144), -10 - 6);
+    }
+
+    private static void promise4LooksAtTheTextAlone() {
+        CitationFormatter x = new CitationFormatter();
+        Checks.type(x, "workKaLbMc");
+        x.clearText();
+        Checks.type(x, "workK");
+        due("a letter of a cleared text does not follow", x.loadWorks(), -10 - 4);
+        x.clearText();
+        Checks.type(x, "wor");
+        due("nor does the rest of a word", x.loadWorks(), -10);
     }
 
     private static void promise4ErrorChangesNothing() {
@@ -245,5 +262,10 @@ public final class TextPromisesTest {
         Checks.type(x, "[3]");
         due("the first work that is not cited", x.expandNumbers(), 16);
         due("only edits can be undone", x.undo(), 4);
+        CitationFormatter eight = Checks.loaded("workAa00a;".repeat(8));
+        Checks.type(eight, "[1-8]");
+        due("all of eight works", eight.expandNumbers(), 255);
+        Checks.type(eight, "[8-9");
+        due("there is no ninth", eight.expandNumbers(), -13);
     }
 }
