@@ -2,25 +2,44 @@
 final class Checks {
     private int made = 0;
     private int wrong = 0;
+    private String sentence = "";
+    private int madeBeforeSentence = -1;
+
+    /** Wrong answers are told with this sentence of the document, until the next one. */
+    void sentence(String words) {
+        endSentence();
+        sentence = words;
+        madeBeforeSentence = made;
+    }
 
     void due(String call, long got, long want) {
         made++;
         if (got != want) {
-            wrong++;
-            System.out.println(call + " answered " + got + ", due is " + want);
+            tell(call + " answered " + got + ", due is " + want);
         }
     }
 
     void dueText(String call, String got, String want) {
         made++;
         if (!got.equals(want)) {
-            wrong++;
-            System.out.println(call + " answered \"" + got + "\", due is \"" + want + "\"");
+            tell(call + " answered \"" + got + "\", due is \"" + want + "\"");
+        }
+    }
+
+    private void tell(String fault) {
+        wrong++;
+        System.out.println(sentence.isEmpty() ? fault : fault + " <" + sentence + ">");
+    }
+
+    private void endSentence() {
+        if (made == madeBeforeSentence) {
+            tell("no answer was looked at");
         }
     }
 
     /** Ends the program with exit code 1 if an answer was wrong, or if none was looked at. */
     void close(String test) {
+        endSentence();
         System.out.println(test + ": " + made + " answers, " + wrong + " wrong");
         if (wrong != 0 || made == 0) {
             System.exit(1);
