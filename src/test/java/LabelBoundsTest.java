@@ -181,6 +181,16 @@ public final class LabelBoundsTest {
         dueText("four, three, two and one author", Checks.listing(x), "3210");
         x.setSortSlot(0, 1, 1);
         dueText("descending", Checks.listing(x), "0123");
+        // Authors of works that are gone are no part of the shorter lists in their places.
+        for (String before : new String[] {"workZzZzZzZz00a;", "workAaAaAaAa00a;"}) {
+            x = Checks.loaded(before.repeat(4));
+            Checks.type(x, "workKaLbMcNd00a;workKaLbMc00a;workKaLb00a;workKa00a;");
+            x.loadWorks();
+            dueText("in the places of longer lists", Checks.listing(x), "3210");
+            Checks.type(x, "workKa00a;workKaLb00a;workKaLbMc00a;workKaLbMcNd00a;");
+            x.loadWorks();
+            dueText("in their places again", Checks.listing(x), "0123");
+        }
         x = Checks.loaded("workKb00a;workKaAaAaAa00a;workKa00a;");
         dueText("the longer one is no greater than another letter", Checks.listing(x), "210");
     }
